@@ -154,6 +154,10 @@ final class LostTest {
         C.due("no coal", x.year(1, 1, 0), 0);
         C.due("its lamp, and its echo's", x.year(1, 1, 1), 2);
         C.due("one voice", x.year(1, 1, 2), 1);
+        // Of seed 0 it is 74: voice 2, by 9 left over by 8: 1, it sings 1.
+        x.voice(2, 1, 1, 9, 8);
+        C.due("seed 0", x.year(0, 1, 2), 1);
+        x.leave(2);
         x.voice(5, 3, 3, 9, 1);
         C.due("if that can be", x.year(1, 1, 2), 0);
         for (int v = 0; v < 8; v++) {

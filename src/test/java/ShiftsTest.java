@@ -266,7 +266,9 @@ final class ShiftsTest {
         C.due("differ by 2", x.shakes(), 512);
         Check.act(x, "Bf");
         C.due("the same", x.shakes(), 512);
-        Check.act(x, "BeB>1");
+        Check.act(x, "Be");
+        C.due("the first one higher", x.shakes(), 513);
+        Check.act(x, "B>1");
         C.due("not together", x.shakes(), 512);
         x.leave(4);
         C.due("gone", x.shakes(), 0);
