@@ -34,7 +34,10 @@ final class Check {
     static String all(SongLamps x) {
         StringBuilder row = new StringBuilder();
         for (int what = 0; what < 200; what++) {
-            row.append(x.told(what)).append(' ');
+            // What else is asked for is refused, and an object has 512 calls alone.
+            if (what % 10 <= (what < 10 ? 6 : what < 100 ? 5 : 2)) {
+                row.append(x.told(what)).append(' ');
+            }
         }
         return row.toString();
     }

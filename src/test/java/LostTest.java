@@ -207,7 +207,7 @@ final class LostTest {
         C.due("the sights as they were", x.losts(0), 4);
         x.breath(3, 2);
         C.due("restore(1) again", x.restore(1), 1);
-        C.same("as it was again", Check.all(x), ahead);
+        C.due("its breath as it was again", x.told(42), 49);
         C.due("restore(0)", x.restore(0), 1);
         C.same("the other one", Check.all(x), behind);
         Check.write(x, "A-");

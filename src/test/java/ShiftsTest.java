@@ -13,7 +13,6 @@ final class ShiftsTest {
         light();
         gas();
         shakes();
-        lastBeat();
         C.end();
     }
 
@@ -272,18 +271,5 @@ final class ShiftsTest {
         C.due("not together", x.shakes(), 512);
         x.leave(4);
         C.due("gone", x.shakes(), 0);
-    }
-
-    /** Far beyond 512 calls, where the document leaves the answers free: kept all the same. */
-    private static void lastBeat() {
-        SongLamps x = new SongLamps();
-        for (int i = 0; i < 990; i += 30) {
-            Check.act(x, "..............................");
-        }
-        judged(x, ".........", -6, -6);
-        judged(x, "..........", 9, 7);
-        Check.act(x, ".........");
-        C.due("the beat", x.told(3), 999);
-        judged(x, "*0.", 1, 7);
     }
 }

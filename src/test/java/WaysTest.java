@@ -145,6 +145,7 @@ final class WaysTest {
             }
             for (int rests = songs % 3; rests <= 999; rests += 3) {
                 int[] due = Model.holdOf(songs, rests);
+                x = new SongLamps();
                 C.due("hold(" + songs + ", " + rests + ", 0)", x.hold(songs, rests, 0), due[0]);
                 C.due("hold(" + songs + ", " + rests + ", 1)", x.hold(songs, rests, 1), due[1]);
                 others += due[1] > 0 ? 1 : 0;
@@ -168,6 +169,7 @@ final class WaysTest {
         C.due("round(2, 0, 2, 1)", x.round(2, 0, 2, 1), -6);
         for (int p = 1; p <= 99; p += 7) {
             for (int q = 1; q <= 99; q++) {
+                x = new SongLamps();
                 for (int a = 0; a <= 99; a += 11) {
                     for (int b = 0; b <= 99; b += 9) {
                         C.due("round(" + p + ", " + a + ", " + q + ", " + b + ")", x.round(p, a, q, b),
