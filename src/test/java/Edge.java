@@ -69,10 +69,7 @@ final class Edge {
     }
 
     private void outside(String told, Scene scene, int n, long refusal, Trial trial) {
-        SongLamps x = scene.made();
-        String row = told + " of " + n + " in " + scene;
-        due(row, trial.on(x, n), refusal);
-        same(row + " changes nothing", Scene.seen(x, 0), scene.seenAhead(0));
+        refused(told + " of " + n, scene, x -> trial.on(x, n), refusal);
     }
 
     void end() {

@@ -27,6 +27,7 @@ final class GalleriesEdgesTest {
         sayCodes();
         saySixty();
         wipe();
+        wipedSigns();
         faultEachSign();
         faultMore();
         faultFirst();
@@ -405,6 +406,27 @@ final class GalleriesEdgesTest {
         E.due("VOICES stay", y.told(1), 255);
         E.due("SIGHTS stay", y.told(6), 8);
         E.due("the beat stays", y.told(3), 2);
+    }
+
+    private static void wipedSigns() {
+        E.sentence("8: Signs go; 11: it is empty then: what stood there counts no more");
+        SongLamps x = new SongLamps();
+        x.voice(0, 0, 23, 9, 0);
+        x.passage(0, 1, true);
+        String[] texts = {"Aa", "A>1", "*0", "..", "A-A>1"};
+        String[] begun = {"A", "A>", "*", "..*", "A-A>"};
+        for (int i = 0; i < texts.length; i++) {
+            Check.write(x, texts[i]);
+            E.due("fault() of " + begun[i] + ", where " + texts[i] + " was", Check.write(x, begun[i]).fault(),
+                    begun[i].length());
+        }
+        Check.write(x, ".".repeat(60));
+        E.due("fault() of A, where 60 beats were", Check.write(x, "A").fault(), 1);
+        E.due("done()", Check.act(x, "Aa.A>1"), 3);
+        x.say('A');
+        E.due("fault() of A, where Aa was DONE", x.fault(), 1);
+        x.say('b');
+        E.due("one act, where three were DONE", x.done(), 1);
     }
 
     /** Which signs may come where, sign by sign. */

@@ -25,6 +25,7 @@ final class LostEdgesTest {
         yearRanges();
         yearCounts();
         yearCanBe();
+        yearDraws();
         yearInFact();
         imageKept();
         imageAllButThePad();
@@ -229,10 +230,12 @@ final class LostEdgesTest {
     private static void listenLeast() {
         E.sentence("26: LISTEN: the GALLERY to listen in next: the least");
         for (int g = 0; g < 10; g++) {
-            SongLamps x = new SongLamps();
-            x.heard(g, 3);
-            E.due("one is left wherever", x.listen(0), 0);
-            E.due("one is left wherever", x.listen(1), 1);
+            for (int note = 0; note < 24; note++) {
+                SongLamps x = new SongLamps();
+                x.heard(g, note);
+                E.due("one is left wherever", x.listen(0), 0);
+                E.due("one is left wherever", x.listen(1), 1);
+            }
         }
         for (int g = 0; g < 9; g++) {
             SongLamps x = new SongLamps();
@@ -470,6 +473,51 @@ final class LostEdgesTest {
         E.due("VOICES, " + told, x.year(seed, 1, 2), voices);
     }
 
+    /** The draws are written on the pad of a twin, one by one, and done there in fact. */
+    private static void yearDraws() {
+        E.sentence("28: x becomes (75 x and 74) left over by 65537; of VOICE x left over by 8 ...");
+        int[] seeds = {0, 1, 2, 872, 873, 874, 1747, 4369, 6553, 8738, 9998, 9999};
+        for (int seed : seeds) {
+            for (int m : new int[] {1, 2, 3, 10, 50, 98, 99}) {
+                for (Scene scene : new Scene[] {Scene.EMPTY, Scene.BUSY, Scene.STUCK}) {
+                    SongLamps twin = scene.made();
+                    twin.wipe();
+                    doYear(twin, seed, m);
+                    SongLamps x = scene.made();
+                    String told = "year(" + seed + ", " + m + ", ..) in " + scene + ", ";
+                    E.due(told + "COAL", x.year(seed, m, 0), twin.then(2));
+                    E.due(told + "lamps", x.year(seed, m, 1), Integer.bitCount(twin.told(2)));
+                    int sing = 0;
+                    for (int v = 0; v < 8; v++) {
+                        sing += twin.told(15 + 10 * v) >= 0 ? 1 : 0;
+                    }
+                    E.due(told + "VOICES", x.year(seed, m, 2), sing);
+                }
+            }
+        }
+    }
+
+    private static void doYear(SongLamps x, int seed, int m) {
+        long draw = seed;
+        for (int i = 0; i < m; i++) {
+            draw = (75 * draw + 74) % 65537;
+            char who = (char) ('A' + draw % 8);
+            long by = draw / 64;
+            String text;
+            switch ((int) (draw / 8 % 8)) {
+                case 0, 1, 2 -> text = who + "" + (char) ('a' + by % 24);
+                case 3 -> text = who + "-";
+                case 4, 5 -> text = who + ">" + by % 10;
+                case 6 -> text = "*" + by % 10;
+                default -> text = ".";
+            }
+            text.chars().forEach(x::say);
+            if (x.done() < 0) {
+                x.wipe();
+            }
+        }
+    }
+
     private static void yearInFact() {
         E.sentence("28: from all as it is ... Nothing is DONE in fact");
         for (Scene scene : Scene.values()) {
@@ -641,7 +689,7 @@ final class LostEdgesTest {
 
     private static void toldLeastAndMost() {
         E.sentence("31: 0 signs, 1 VOICES (bits), 2 lamps (bits), 3 the beat, 4 CLOSED (bits), 5 GAS (bits), 6 SIGHTS");
-        int[] crowded = {60, 255, 561 + 64, 2, 256, 8, 8};
+        int[] crowded = {60, 255, 569, 2, 256, 8, 8};
         SongLamps x = Scene.CROWDED.made();
         SongLamps y = new SongLamps();
         for (int what = 0; what < 7; what++) {

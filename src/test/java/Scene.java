@@ -8,7 +8,7 @@ enum Scene {
     FAULTY,
     /** The same, but the second act on the pad can not be. */
     STUCK,
-    /** Eight voices, 60 signs, eight sights, both images. */
+    /** Eight voices, three of them singing in 3, 60 signs, eight sights, both images. */
     CROWDED;
 
     /** As it is; behind restore(0); behind restore(1). */
@@ -51,7 +51,7 @@ enum Scene {
         begin(x, "");
         x.passage(0, 5, true);
         x.voice(5, 0, 23, 99, 5);
-        x.voice(6, 1, 22, 98, 6);
+        x.voice(6, 1, 22, 98, 3);
         x.voice(7, 23, 23, 97, 9);
         x.image(1);
         Check.act(x, "FaGbHx.");

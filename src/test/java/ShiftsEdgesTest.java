@@ -18,6 +18,7 @@ final class ShiftsEdgesTest {
         doneNothing();
         behindEmpty();
         behindVoice();
+        behindLamps();
         thenDark();
         thenDarkNone();
         thenDarkLeast();
@@ -294,6 +295,27 @@ final class ShiftsEdgesTest {
         Check.write(x, "H>9H>0");
         E.due("GALLERY 0", x.behind(7, 2), 0);
         E.due("not DONE", x.told(85), NONE);
+    }
+
+    private static void behindLamps() {
+        E.sentence("13, 14: BEHIND: LIGHT, lamps (bits), not being DONE");
+        SongLamps x = new SongLamps();
+        x.voice(0, 0, 23, 9, 0);
+        x.voice(1, 0, 23, 9, 9);
+        E.due("none", x.then(0), 0);
+        Check.write(x, "Ax");
+        E.due("lamps behind it", x.then(0), 1);
+        E.due("lamps now", x.told(2), 0);
+        E.due("LIGHT behind it", x.seam(0, 0), 24);
+        E.due("LIGHT now", x.light(0), 0);
+        E.due("lamps behind it again", x.then(0), 1);
+        E.due("done()", x.done(), 1);
+        Check.write(x, "BxA-");
+        E.due("lamps behind it", x.then(0), 512);
+        E.due("lamps now", x.told(2), 1);
+        E.due("lamps behind it again", x.then(0), 512);
+        E.due("LIGHT now", x.light(0), 24);
+        E.due("LIGHT behind it", x.seam(0, 0), 0);
     }
 
     private static void thenDark() {

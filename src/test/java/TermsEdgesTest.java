@@ -162,11 +162,10 @@ final class TermsEdgesTest {
         E.refused("heard(0, 24) where 8 are", Scene.CROWDED, x -> x.heard(0, 24), OUTSIDE);
         E.refused("heard(0, -2) where 8 are", Scene.CROWDED, x -> x.heard(0, -2), OUTSIDE);
         E.refused("restore(2)", Scene.EMPTY, x -> x.restore(2), OUTSIDE);
-        Edge.Call[] colds = {x -> x.cold(0, 11, 9, 0, 0), x -> x.cold(0, -1, 9, 0, 0), x -> x.cold(0, 1, 9, 0, 2),
-            x -> x.cold(0, 1, 9, 0, -1), x -> x.cold(0, 1, 10, 0, 0)};
+        Edge.Call[] colds = {x -> x.cold(3, 11, 9, 0, 0), x -> x.cold(3, -1, 9, 0, 0), x -> x.cold(3, 1, 9, 0, 2),
+            x -> x.cold(3, 1, 9, 0, -1), x -> x.cold(3, 1, 10, 0, 0)};
         for (Edge.Call call : colds) {
-            SongLamps x = threeSing();
-            E.due("three sing nine beats, and a number is not as told", call.on(x), LOST + OUTSIDE);
+            E.refused("three sing nine beats, and a number is not as told", Scene.CROWDED, call, LOST + OUTSIDE);
         }
     }
 
@@ -205,6 +204,11 @@ final class TermsEdgesTest {
         E.refused("restore(0)", Scene.EMPTY, x -> x.restore(0), STATE);
         E.refused("restore(1)", Scene.EMPTY, x -> x.restore(1), STATE);
         E.refused("restore(1)", Scene.BUSY, x -> x.restore(1), STATE);
+        for (int n = 7; n <= 9; n++) {
+            int beats = n;
+            E.refused("cold(3, 1, " + n + ", 0, 0)", Scene.CROWDED, x -> x.cold(3, 1, beats, 0, 0), LOST + STATE);
+            E.refused("cold(3, 1, " + n + ", 0, 1)", Scene.CROWDED, x -> x.cold(3, 1, beats, 0, 1), LOST + STATE);
+        }
         for (int i = 33; i <= 126; i++) {
             int sign = i;
             E.refused("say(" + i + ")", Scene.CROWDED, x -> x.say(sign), FULL);

@@ -24,6 +24,7 @@ final class WaysEdgesTest {
         holdNinetyNine();
         holdDigits();
         holdWho();
+        holdAgain();
         roundRange();
         roundNow();
         roundFirst();
@@ -398,14 +399,37 @@ final class WaysEdgesTest {
         holdIs(911, 919, 15, 1);
         holdIs(911, 991, 15, 2);
         holdIs(191, 199, 15, 0);
-        for (int songs = 111; songs <= 999; songs += 37) {
-            for (int rests = 0; rests <= 999; rests += 7) {
-                if (songs % 10 != 0 && songs / 10 % 10 != 0) {
-                    int[] due = Model.holdOf(songs, rests);
-                    holdIs(songs, rests, due[0], due[1]);
+        holdIs(199, 999, 99, 0);
+        holdIs(188, 999, 99, 0);
+        for (int digit = 1; digit <= 9; digit++) {
+            for (int songs : new int[] {111 * digit, 100 * digit + 99, 100 * digit + 11, 191 + digit - 1, 911}) {
+                for (int rests : new int[] {100 * digit, 100 * digit + 99, 10 * digit, digit, 909 - digit, 999}) {
+                    holdAsModel(new SongLamps(), songs, rests);
                 }
             }
         }
+        for (int songs = 111; songs <= 999; songs += 37) {
+            for (int rests = 0; rests <= 999; rests += 7) {
+                holdAsModel(new SongLamps(), songs, rests);
+            }
+        }
+    }
+
+    private static void holdAsModel(SongLamps x, int songs, int rests) {
+        if (songs % 10 != 0 && songs / 10 % 10 != 0) {
+            int[] due = Model.holdOf(songs, rests);
+            E.due("hold(" + songs + ", " + rests + ", 0)", x.hold(songs, rests, 0), due[0]);
+            E.due("hold(" + songs + ", " + rests + ", 1)", x.hold(songs, rests, 1), due[1]);
+        }
+    }
+
+    private static void holdAgain() {
+        E.sentence("21: (all are rested at first): whatever was asked ahead of it");
+        SongLamps x = new SongLamps();
+        for (int i = 0; i < 250; i++) {
+            holdAsModel(x, 111 + i * 353 % 889, 999 - i * 7 % 500);
+        }
+        E.due("nobody of the VOICES is asked", Scene.CROWDED.made().hold(111, 999, 0), 3);
     }
 
     private static void holdWho() {
