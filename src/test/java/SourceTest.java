@@ -3,6 +3,8 @@ import java.nio.charset.StandardCharsets;
 import java.nio.file.Files;
 import java.nio.file.Path;
 import java.util.List;
+import java.util.Map;
+import java.util.TreeMap;
 import java.util.regex.Matcher;
 import java.util.regex.Pattern;
 
@@ -32,6 +34,7 @@ final class SourceTest {
         int classes = found(code, "\\bclass \\w+").split(",").length;
         C.due(classes + " classes are twelve at the most", classes <= 12 ? 1 : 0, 1);
         methods(code.split("\n"));
+        made(code);
         C.end();
     }
 
@@ -40,9 +43,21 @@ final class SourceTest {
         return all.toString();
     }
 
+    /** Rows are made with their object and used again, so that a call makes none. */
+    private static void made(String code) {
+        String begin = "public SongLamps() {";
+        int from = code.indexOf(begin);
+        int to = code.indexOf("\n    }\n", from);
+        C.due("the constructor was found", from >= 0 && to > from ? 1 : 0, 1);
+        String rest = code.substring(0, from) + code.substring(to);
+        String calls = rest.replaceAll("(?m)^ +(?:private )?final [\\w\\[\\]]+ \\w+ = new [^;]*;$", "");
+        C.due("'new' stands where no object is made", Pattern.compile("\\bnew\\b").matcher(calls).find() ? 1 : 0, 0);
+    }
+
     private static void methods(String[] rows) {
         Pattern head = Pattern.compile("^( +)(?:\\w+ )*\\w+(?:\\[\\])? \\w+\\(([^)]*)\\) \\{$");
         int seen = 0;
+        Map<String, String> bodies = new TreeMap<>();
         for (int i = 0; i < rows.length; i++) {
             Matcher m = head.matcher(rows[i]);
             if (m.matches() && !rows[i].contains(" else ")) {
@@ -54,8 +69,33 @@ final class SourceTest {
                 C.due("lines of " + rows[i].trim() + " are sixty at the most", end - i <= 60 ? 1 : 0, 1);
                 C.due("parameters of " + rows[i].trim() + " are seven at the most",
                         m.group(2).split(",").length <= 7 ? 1 : 0, 1);
+                String body = String.join("\n", List.of(rows).subList(i + 1, Math.min(end, rows.length)));
+                bodies.merge(nameOf(rows[i]), body, String::concat);
             }
         }
         C.due("the methods were found", seen > 30 ? 1 : 0, 1);
+        for (String name : bodies.keySet()) {
+            C.due("calls from " + name + " go eight deep at the most, none to itself",
+                    deep(name, bodies, 1) <= 8 ? 1 : 0, 1);
+        }
+    }
+
+    private static String nameOf(String head) {
+        String ahead = head.substring(0, head.indexOf('('));
+        return ahead.substring(ahead.lastIndexOf(' ') + 1);
+    }
+
+    /** By names alone; the library's are not counted. What calls itself is never at its end, so it ends at nine. */
+    private static int deep(String name, Map<String, String> bodies, int at) {
+        int most = at;
+        if (at <= 8) {
+            Matcher m = Pattern.compile("\\b(\\w+)\\(").matcher(bodies.get(name));
+            while (m.find()) {
+                if (bodies.containsKey(m.group(1))) {
+                    most = Math.max(most, deep(m.group(1), bodies, at + 1));
+                }
+            }
+        }
+        return most;
     }
 }
